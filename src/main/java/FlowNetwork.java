@@ -116,7 +116,9 @@ public final class FlowNetwork {
         requireEnds();
         requireArc(arc);
         requireCapacity(capacity);
-        return valueWith(arc, capacity);
+        trial.copy(current);
+        trial.changeCapacity(arc, capacity);
+        return trial.greatestValue();
     }
 
     public int maximumWithout(int node) throws IllegalStateException, IndexOutOfBoundsException {
@@ -227,7 +229,9 @@ public final class FlowNetwork {
         if (network.tail[arc] == current.source && network.head[arc] == current.sink) {
             return -1;
         }
-        return valueWith(arc, ENDLESS) - current.greatestValue();
+        trial.copy(current);
+        trial.changeCapacity(arc, ENDLESS);
+        return trial.greatestValue() - current.greatestValue();
     }
 
     // ---- levels
@@ -315,13 +319,6 @@ public final class FlowNetwork {
         return (mask & ~network.allNodes()) == 0
                 && contains(mask, current.source)
                 && !contains(mask, current.sink);
-    }
-
-    /** The maximum that there would be with another capacity of one arc. */
-    private int valueWith(int arc, int capacity) {
-        trial.copy(current);
-        trial.changeCapacity(arc, capacity);
-        return trial.greatestValue();
     }
 
     /** How much, up to a bound, can flow from one end of an arc to the other past this arc. */
@@ -675,41 +672,53 @@ public final class FlowNetwork {
 
     /** The minimum cuts that have been found. */
     private static final class Cuts {
+        private static final int NO_CUT = 0;
+
         private int count;
         private final int[] masks = new int[MOST_CUTS];
         private final int[] reachable = new int[MOST_NODES];
 
+        /** The smallest minimum cut is a part of all others, so its mask is the least, too. */
         private void find(MaximumFlow maximum) {
             int nodes = maximum.network.nodes;
             for (int node = 0; node < nodes; node++) {
                 reachable[node] = maximum.flow.reachableFrom(node);
             }
             count = 0;
-            collect(nodes - 1, reachable[maximum.source], 1 << maximum.sink);
+            int cut = reachable[maximum.source];
+            while (count < MOST_CUTS && cut != NO_CUT) {
+                masks[count] = cut;
+                count++;
+                cut = nextAfter(cut, nodes, maximum.sink);
+            }
         }
 
         /**
-         * Collects the minimum cuts with all nodes inside and none outside, where all nodes above
-         * the given one are in one of both. A set is a minimum cut just if it has the source, not
-         * the sink, and with each node all that is reachable from it; so inside is always one
-         * itself, and no branch is empty. High nodes come first, and are left out first, so that
-         * the masks ascend.
+         * A set is a minimum cut just if it has the source, not the sink, and with each node all
+         * that is reachable from it. The next greater mask is the one that gets a new node as low
+         * as possible, keeps the higher nodes as they are, and below has only what these need.
          */
-        private void collect(int node, int inside, int outside) {
-            if (count >= MOST_CUTS) {
-                return;
+        private int nextAfter(int cut, int nodes, int sink) {
+            for (int node = 0; node < nodes; node++) {
+                int above = node + 1;
+                int higher = (cut >> above) << above;
+                int wider = withReachable(higher | (1 << node), nodes) | masks[0];
+                boolean keepsHigher = (wider >> above) == (cut >> above);
+                if (!contains(cut, node) && keepsHigher && !contains(wider, sink)) {
+                    return wider;
+                }
             }
-            if (node < 0) {
-                masks[count] = inside;
-                count++;
-                return;
+            return NO_CUT;
+        }
+
+        private int withReachable(int mask, int nodes) {
+            int wider = mask;
+            for (int node = 0; node < nodes; node++) {
+                if (contains(mask, node)) {
+                    wider |= reachable[node];
+                }
             }
-            if (!contains(inside, node)) {
-                collect(node - 1, inside, outside | (1 << node));
-            }
-            if ((reachable[node] & outside) == 0) {
-                collect(node - 1, inside | reachable[node], outside);
-            }
+            return wider;
         }
     }
 }
