@@ -14,6 +14,8 @@ final class Check {
     static final String INDEX = thrown(2);
 
     private final String test;
+    private String sentence = "";
+    private int sentences;
     private int checks;
     private int wrong;
 
@@ -34,6 +36,12 @@ final class Check {
         }
     }
 
+    /** Names the sentence of the document that the checks behind it hold the class to. */
+    void sentence(String text) {
+        sentence = " [" + text + "]";
+        sentences++;
+    }
+
     void due(String name, Object want, Call call) {
         same(name, String.valueOf(want), answer(call));
     }
@@ -42,7 +50,7 @@ final class Check {
         checks++;
         if (!want.equals(got)) {
             wrong++;
-            System.out.println(test + ": " + name + " answered " + got + ", due is " + want);
+            System.out.println(test + ":" + sentence + " " + name + " answered " + got + ", due is " + want);
         }
     }
 
@@ -51,7 +59,8 @@ final class Check {
     }
 
     void end() {
-        System.out.println(test + ": " + checks + " checks, " + wrong + " wrong");
+        String told = sentences == 0 ? "" : sentences + " sentences, ";
+        System.out.println(test + ": " + told + checks + " checks, " + wrong + " wrong");
         if (wrong > 0 || checks == 0) {
             System.exit(1);
         }
